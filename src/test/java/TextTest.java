@@ -1,6 +1,6 @@
 /** Promises 1 to 4: a new object, type, clear, town. */
 public final class TextTest {
-    private static final int EXTREMES[] = {Integer.MIN_VALUE, -1, 256, Integer.MAX_VALUE};
+    private static final int[] EXTREMES = {Integer.MIN_VALUE, -1, 256, Integer.MAX_VALUE};
 
     public static void main(String[] args) {
         newObject();
@@ -103,6 +103,9 @@ public final class TextTest {
         fault("s0 1 0;y2;", 7);
         fault("ys", 0);
         fault("  yy3;", 2);
+        fault("ya3;", 0);
+        fault("sz0 1 0;", 0);
+        fault("y3;ca", 3);
         fault("Y3;", 0);
         fault("z", 0);
         fault("5", 0);
@@ -118,6 +121,10 @@ public final class TextTest {
         fault("s0 1 9 9;", 7);
         fault("s0 1;", 4);
         fault("s0 1 9", 6);
+        fault("s", 1);
+        fault("s0", 2);
+        fault("s0 ", 3);
+        fault("s0 1 ", 5);
         fault("s0 1 9s", 6);
         fault("s0 1 9 s", 7);
         fault("s01 2;", 1);
@@ -136,6 +143,8 @@ public final class TextTest {
         fault("cc", 0);
         fault("s0 1 0;c1 1;", 8);
         fault("s0 1 0;c0 0;", 10);
+        fault("s0 1 0;c0 :;", 10);
+        fault("s0 1 0;c0 /;", 10);
         fault("s0 1 0;c0 11;", 10);
         fault("s0 1 0;c0 01;", 10);
         fault("s0 1 0;c0;", 9);
@@ -159,14 +168,14 @@ public final class TextTest {
         Check.due("town() at the end faulty", x.town(), -39);
         Check.same("nothing changes", Check.all(x), before);
         Check.due("the image is kept", x.back(0), 1);
-        Check.due("what may be undone", x.undo(), 2);
+        Check.due("what may be undone", x.undo(), 3);
     }
 
     private static void readingAnew() {
         KindStreets x = busy();
         long trace = x.trace();
-        Check.due("town() anew", Check.tell(x, "s0 1 3;c0 2;"), 2);
-        KindStreets fresh = Check.told("s0 1 3;c0 2;");
+        Check.due("town() anew", Check.tell(x, "s0 1 3;s0 1 1;s0 1 2;c0 2;"), 4);
+        KindStreets fresh = Check.told("s0 1 3;s0 1 1;s0 1 2;c0 2;");
         fresh.mark(4, 0);
         Check.same("as told", Check.all(x), Check.all(fresh));
         Check.due("trace goes on", x.trace(), trace);
@@ -182,6 +191,7 @@ public final class TextTest {
     private static KindStreets busy() {
         KindStreets x = Check.told("y5;s0 1 2;s1 2 0;s3 4 1;c0 3;c0 4;c1 2;c2 1;");
         x.does(0, 5, 0);
+        x.does(0, 7, 1);
         x.does(3, 6, 0);
         x.night(1);
         x.measures(3, 0);
