@@ -28,10 +28,10 @@ public final class KindStreets {
     private final Town town = new Town();
     private final Now now = new Now();
     private final Now[] images = new Now[] {new Now(), new Now()};
-    private int kept;
+    private int kept; // which images are, as bits
     private final Ways ways = new Ways();
     private final Carriages carriages = new Carriages();
-    private final Measures measured = new Measures();
+    private final Measures measures = new Measures();
     private long trace;
 
     public KindStreets() {
@@ -64,7 +64,7 @@ public final class KindStreets {
         town.become(draft);
         now.begin(town);
         kept = 0;
-        measured.many = 0;
+        measures.measured = 0;
         text.length = 0;
         return items;
     }
@@ -251,36 +251,36 @@ public final class KindStreets {
         if (!isWithin(width, 1, MOST_WIDTH) || !isWithin(night, DAY, NIGHT)) {
             return BAD;
         }
-        if (measured.many >= MOST_MEASURED) {
+        if (measures.measured >= MOST_MEASURED) {
             return FULL;
         }
-        measured.add(width, night);
-        return measured.many;
+        measures.add(width, night);
+        return measures.measured;
     }
 
     public int forget() {
-        int had = measured.many;
-        measured.many = 0;
+        int had = measures.measured;
+        measures.measured = 0;
         return had;
     }
 
     public int deeds(int what) {
         switch (what) {
             case 0:
-                return measured.manyDeeds();
+                return measures.manyDeeds();
             case 1:
-                return measured.firstDeeds();
+                return measures.firstDeeds();
             default:
                 return BAD;
         }
     }
 
     public int when() {
-        int byDay = measured.mostAlike(DAY);
+        int byDay = measures.mostAlike(DAY);
         if (byDay == 0) {
             return NONE;
         }
-        return byDay <= measured.mostAlike(NIGHT) ? DAY : NIGHT;
+        return byDay <= measures.mostAlike(NIGHT) ? DAY : NIGHT;
     }
 
     // ---- kinds, images
@@ -336,7 +336,7 @@ public final class KindStreets {
             case 2:
                 return town.citizens;
             case 3:
-                return measured.many;
+                return measures.measured;
             case 4:
                 return now.known;
             case 5:
@@ -967,40 +967,39 @@ public final class KindStreets {
 
     /** What was measured of an unknown street, and the deeds by which it is so. */
     private static final class Measures {
+        // Two deeds are one number, as they are answered: 10 times SEEN and FALSE.
+        private static final int SEEN_ONE = 10, ALL_DEEDS = 100;
+
         private final int[] width = new int[MOST_MEASURED];
         private final int[] night = new int[MOST_MEASURED];
-        int many;
+        int measured;
         private final int[] alike = new int[MOST_WIDTH + 1];
 
         Measures() {
         }
 
         void add(int wide, int at) {
-            if (many < MOST_MEASURED) {
-                width[many] = wide;
-                night[many] = at;
-                many++;
+            if (measured < MOST_MEASURED) {
+                width[measured] = wide;
+                night[measured] = at;
+                measured++;
             }
         }
 
         int manyDeeds() {
-            int deeds = 0;
-            for (int seen = 0; seen <= MOST_DEED; seen++) {
-                for (int pretended = 0; pretended <= MOST_DEED; pretended++) {
-                    if (areSo(seen, pretended)) {
-                        deeds++;
-                    }
+            int many = 0;
+            for (int deeds = 0; deeds < ALL_DEEDS; deeds++) {
+                if (areSo(deeds)) {
+                    many++;
                 }
             }
-            return deeds;
+            return many;
         }
 
         int firstDeeds() {
-            for (int seen = 0; seen <= MOST_DEED; seen++) {
-                for (int pretended = 0; pretended <= MOST_DEED; pretended++) {
-                    if (areSo(seen, pretended)) {
-                        return 10 * seen + pretended;
-                    }
+            for (int deeds = 0; deeds < ALL_DEEDS; deeds++) {
+                if (areSo(deeds)) {
+                    return deeds;
                 }
             }
             return NONE;
@@ -1010,25 +1009,27 @@ public final class KindStreets {
         int mostAlike(int at) {
             Arrays.fill(alike, 0);
             int most = 0;
-            for (int seen = 0; seen <= MOST_DEED; seen++) {
-                for (int pretended = 0; pretended <= MOST_DEED; pretended++) {
-                    if (areSo(seen, pretended)) {
-                        int wide = Moment.widthBy(seen, pretended, at);
-                        alike[wide]++;
-                        most = Math.max(most, alike[wide]);
-                    }
+            for (int deeds = 0; deeds < ALL_DEEDS; deeds++) {
+                if (areSo(deeds)) {
+                    int wide = widthBy(deeds, at);
+                    alike[wide]++;
+                    most = Math.max(most, alike[wide]);
                 }
             }
             return most;
         }
 
-        private boolean areSo(int seen, int pretended) {
-            for (int i = 0; i < many; i++) {
-                if (Moment.widthBy(seen, pretended, night[i]) != width[i]) {
+        private boolean areSo(int deeds) {
+            for (int i = 0; i < measured; i++) {
+                if (widthBy(deeds, night[i]) != width[i]) {
                     return false;
                 }
             }
             return true;
+        }
+
+        private static int widthBy(int deeds, int at) {
+            return Moment.widthBy(deeds / SEEN_ONE, deeds % SEEN_ONE, at);
         }
     }
 }
