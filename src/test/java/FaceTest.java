@@ -22,11 +22,13 @@ public final class FaceTest {
         "\\bassert\\b", "->", "::", "\\bprotected\\b", "^package\\b", "\\bSystem\\.(?!arraycopy)",
         "\\bArrays\\.(?!fill|copyOf)", "\\bInteger\\.(?!bitCount)", "\\bMath\\.(?!max|min)",
         "\\bRandom\\b", "\\bThread\\b", "\\bstatic\\s*\\{", "\\bnull\\b", "\\bfloat\\b", "\\bdouble\\b",
+        "^import (?!java\\.util\\.Arrays;)",
     };
 
     public static void main(String[] args) throws Exception {
         constants();
         members();
+        parameters(KindStreets.class);
         source();
         Check.end();
     }
@@ -64,6 +66,15 @@ public final class FaceTest {
             Check.due("fields of " + inside, inside.getDeclaredFields().length <= 20 ? 1 : 0, 1);
         }
         Check.due("some twelve classes", KindStreets.class.getDeclaredClasses().length < 12 ? 1 : 0, 1);
+    }
+
+    private static void parameters(Class<?> of) {
+        for (var method : of.getDeclaredMethods()) {
+            Check.due("parameters of " + method, method.getParameterCount() <= 7 ? 1 : 0, 1);
+        }
+        for (Class<?> inside : of.getDeclaredClasses()) {
+            parameters(inside);
+        }
     }
 
     private static List<Member> visible(Member[] members) {
