@@ -1,12 +1,12 @@
 /** What all tests of the project share: answers that are due, and objects that were told a text. */
-final class Check {
+public final class Check {
     private static int wrong;
     private static int asked;
 
     private Check() {
     }
 
-    static void due(String call, long got, long want) {
+    public static void due(String call, long got, long want) {
         asked++;
         if (got != want) {
             wrong++;

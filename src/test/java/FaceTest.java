@@ -29,7 +29,10 @@ public final class FaceTest {
         constants();
         members();
         parameters(KindStreets.class);
+        fields(KindStreets.class);
         source();
+        order();
+        lengths();
         Check.end();
     }
 
@@ -77,6 +80,24 @@ public final class FaceTest {
         }
     }
 
+    /** Static fields are numbers that stay, others numbers, rows of them, or of the class's own. */
+    private static void fields(Class<?> of) {
+        for (var field : of.getDeclaredFields()) {
+            int modifiers = field.getModifiers();
+            boolean isNumber = field.getType() == int.class || field.getType() == long.class;
+            boolean isOwn = field.getType() == int[].class || field.getType().getName().contains("KindStreets");
+            Check.due("the type of " + field, isNumber || isOwn ? 1 : 0, 1);
+            if (Modifier.isStatic(modifiers)) {
+                Check.due("a constant: " + field, Modifier.isFinal(modifiers) && isNumber ? 1 : 0, 1);
+            } else if (isOwn) {
+                Check.due("made once: " + field, Modifier.isFinal(modifiers) ? 1 : 0, 1);
+            }
+        }
+        for (Class<?> inside : of.getDeclaredClasses()) {
+            fields(inside);
+        }
+    }
+
     private static List<Member> visible(Member[] members) {
         List<Member> visible = new ArrayList<>();
         for (Member member : members) {
@@ -87,8 +108,35 @@ public final class FaceTest {
         return visible;
     }
 
+    private static String text() throws Exception {
+        return Files.readString(Path.of("src/main/java/KindStreets.java"));
+    }
+
+    /** The public calls stand in the document's order. */
+    private static void order() throws Exception {
+        Matcher calls = Pattern.compile("^    public \\w+ (\\w+)\\((.*)\\) \\{$", Pattern.MULTILINE).matcher(text());
+        List<String> found = new ArrayList<>();
+        while (calls.find()) {
+            found.add(calls.group(1) + "(" + calls.group(2).replaceAll("int \\w+", "int").replace(" ", "") + ")");
+        }
+        Check.same("the order of the calls", found.toString(), Arrays.asList(FACE).toString());
+    }
+
+    /** From a method's first line to the brace that stands as deep as it. */
+    private static void lengths() throws Exception {
+        Matcher methods = Pattern.compile("^( {4}| {8})(?!private static (?:final )?class)[a-zA-Z].*\\) \\{\n(?:.*\n)*?\\1\\}$",
+            Pattern.MULTILINE).matcher(text());
+        int many = 0;
+        while (methods.find()) {
+            String method = methods.group();
+            Check.due("some sixty lines: " + method.split("\n")[0].trim(), method.split("\n").length <= 60 ? 1 : 0, 1);
+            many++;
+        }
+        Check.due("methods were found", many > FACE.length ? 1 : 0, 1);
+    }
+
     private static void source() throws Exception {
-        String source = Files.readString(Path.of("src/main/java/KindStreets.java"));
+        String source = text();
         for (int i = 0; i < source.length(); i++) {
             if (source.charAt(i) > 127) {
                 Check.due("the sign at " + i, source.charAt(i), '?');
